@@ -611,7 +611,7 @@ public final class TrainDecoder {
             int kind = command >> 6;
             int argument = command & 63;
             if (kind == Packet.KIND_SPEED) {
-                target = Math.min(argument, MAX_SPEED);
+                target = argument < MAX_SPEED ? argument : MAX_SPEED;
             } else if (kind == Packet.KIND_LAMP) {
                 duty = argument % 16;
             } else if (kind == Packet.KIND_STOP) {

@@ -89,6 +89,9 @@ final class ChangesTest {
         Check.unfit(x, "setLamp of both", () -> x.setLamp(128, 0));
         Check.unfit(x, "stop of both", () -> x.stop(-1));
         x.passTicks(1);
+        for (int packet = 0; packet < 11; packet++) {
+            Check.equal("packet " + packet + " then", packet + 1, x.packetCommand(packet));
+        }
         Check.equal("room again", 12, x.setLamp(0, 0));
     }
 

@@ -116,13 +116,14 @@ final class OutputHistoryTest {
     }
 
     private static void undoBringsBackAllCounts() {
-        TrainDecoder x = new TrainDecoder();
+        TrainDecoder x = Ask.with("track 8 4;tunnel 4;train 3 2 4 0;train 5 1 2 2;train 7 1 1 4;");
         String before = Ask.railway(x);
         Ask.run(x, "speed 0 28;packet 5 5 5;lamp 3 3;wait 60;short 2;wait 60;");
         Check.equal("cutoffs", true, x.cutoffs() > 0);
         Check.equal("blocked", true, x.blockedTicks(0) > 0);
         Check.equal("entered", true, x.sectionsEntered(0) > 0);
         Check.equal("rejected", true, x.rejected(1) > 0);
+        Check.equal("unheard", true, x.unheard(2) > 0);
         Check.equal("sent", 3, x.sentPackets());
         x.undo();
         Check.equal("all counts", before, Ask.railway(x));

@@ -31,6 +31,8 @@ final class ScriptTest {
                 + "stop 127; short 7; mend 6; wait 4; wait 1;");
         Check.equal("executed", 11, executed);
         Check.equal("the same", Ask.railway(x), Ask.railway(y));
+        Check.equal("stop in a script", 2, Ask.run(y, "speed 3 4;stop 99;"));
+        Check.equal("its packet", "99 128 true", y.packetAddress(0) + " " + y.packetCommand(0) + " " + y.isIntact(0));
         Check.equal("an empty script", 0, Ask.run(x, ""));
         Check.equal("spaces", 0, Ask.run(x, " \n "));
         Check.equal("the longest wait", 1, Ask.run(x, "wait 60;"));
@@ -149,6 +151,10 @@ final class ScriptTest {
         error("wait 1;wait", 1, 11);
         error("waits 1;", 1, 0);
         error("wai 1;", 1, 0);
+        error("xait 1;", 1, 0);
+        error("waitz 1;", 1, 0);
+        error("zwait 1;", 1, 0);
+        error("wait 1;short 1;xhort 1;", 1, 15);
         error("train 1 1 1 1;", 1, 0);
         error("Wait 1;", 1, 0);
         error("5;", 1, 0);

@@ -81,6 +81,7 @@ final class TextInputTest {
         x.passTicks(1);
         x.stop(3);
         x.saveSnapshot();
+        x.ticksToCutoff();
         x.writeTrack();
         String output = Ask.output(x);
         String before = Ask.railway(x);
@@ -91,6 +92,8 @@ final class TextInputTest {
         Check.equal("the snapshot stays", 61, x.restoreSnapshot());
         Check.equal("it was that railway", before, Ask.railway(x));
         x.clearQueue();
+        x.setSpeed(0, 9);
+        x.speedAfter(0, 0);
         Check.equal("a good text", 2, Ask.load(x, TRACK + "train 1 1 1 0;train 2 1 1 2;"));
         Check.equal("all is new", fresh, Ask.railway(x));
         Check.equal("no history", 0, x.undoableCount());
@@ -147,6 +150,8 @@ final class TextInputTest {
         error("train 1 1 1 1;", 1, 0);
         error("trac 4 1;", 1, 0);
         error("trackk 4 1;", 1, 0);
+        error("xrack 4 1;", 1, 0);
+        error("trackz 4 1;", 1, 0);
         error("Track 4 1;", 1, 0);
         error("track", 1, 5);
         error("track ;", 1, 6);

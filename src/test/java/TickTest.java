@@ -120,32 +120,27 @@ final class TickTest {
         Check.equal("a lamp's packet ends the silence", 0, z.silence(0));
     }
 
+    /** Train 0's speed after each of the next ticks. */
+    private static String speeds(TrainDecoder x, int ticks) {
+        StringBuilder speeds = new StringBuilder();
+        for (int tick = 0; tick < ticks; tick++) {
+            x.passTicks(1);
+            speeds.append(x.speed(0)).append(' ');
+        }
+        return speeds.toString();
+    }
+
     private static void speeds() {
         TrainDecoder x = one();
         x.setSpeed(1, 28);
-        String speeds = "";
-        for (int tick = 0; tick < 7; tick++) {
-            x.passTicks(1);
-            speeds += x.speed(0) + " ";
-        }
-        Check.equal("faster", "5 10 15 20 25 28 28 ", speeds);
+        Check.equal("faster", "5 10 15 20 25 28 28 ", speeds(x, 7));
         x.setSpeed(1, 3);
-        speeds = "";
-        for (int tick = 0; tick < 5; tick++) {
-            x.passTicks(1);
-            speeds += x.speed(0) + " ";
-        }
-        Check.equal("slower", "14 7 4 3 3 ", speeds);
+        Check.equal("slower", "14 7 4 3 3 ", speeds(x, 5));
         TrainDecoder y = Ask.with("track 9 5;train 1 5 9 0;");
         y.setSpeed(1, 20);
         y.passTicks(4);
         y.setSpeed(1, 2);
-        speeds = "";
-        for (int tick = 0; tick < 6; tick++) {
-            y.passTicks(1);
-            speeds += y.speed(0) + " ";
-        }
-        Check.equal("slower by 9", "18 16 15 14 13 12 ", speeds);
+        Check.equal("slower by 9", "18 16 15 14 13 12 ", speeds(y, 6));
         TrainDecoder z = Ask.with("track 9 5;train 1 5 1 0;");
         z.setSpeed(1, 20);
         z.passTicks(4);
@@ -162,12 +157,7 @@ final class TickTest {
         x.passTicks(1);
         x.setShort(0, false);
         Check.equal("power is off at the end of a tick", 12, x.speed(0));
-        String speeds = "";
-        for (int tick = 0; tick < 5; tick++) {
-            x.passTicks(1);
-            speeds += x.speed(0) + " ";
-        }
-        Check.equal("by 5, and up with the power", "7 2 0 0 5 ", speeds);
+        Check.equal("by 5, and up with the power", "7 2 0 0 5 ", speeds(x, 5));
         Check.equal("the target stays", 12, x.targetSpeed(0));
         Check.equal("it has run on", 5 + 10 + 12 + 7 + 2 + 5, x.advance(0));
     }

@@ -165,6 +165,10 @@ final class TrainsTest {
         x.passTicks(1);
         Check.equal("two of three", (double) (2f / 3f), x.obeyedShare());
         Check.equal("mean", (2.0 + 1.0) / 2.0, x.meanSpeed());
+        TrainDecoder alone = Ask.with("track 4 1;train 1 3 1 0;");
+        alone.setSpeed(1, 28);
+        alone.passTicks(1);
+        Check.equal("mean of one", 3.0, alone.meanSpeed());
     }
 
     private static void wrongTrains() {
