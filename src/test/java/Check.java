@@ -6,6 +6,8 @@ final class Check {
 
     private static int wrong;
     private static int checked;
+    /** What the running test stands for, if it says so. */
+    private static String about = "";
 
     private Check() {
     }
@@ -48,6 +50,26 @@ final class Check {
         equal(what + " changes nothing", before, Ask.all(x));
     }
 
+    /** The call throws nothing. */
+    static void takes(String what, Call call) {
+        String thrown = "nothing";
+        try {
+            call.run();
+        } catch (RuntimeException e) {
+            thrown = e.getClass().getName();
+        }
+        equal(what + " throws", "nothing", thrown);
+    }
+
+    /** A test that stands for something by itself: it must compare an answer, and throw nothing. */
+    static void run(String meaning, Call test) {
+        int before = checked;
+        about = meaning + " | ";
+        takes("the test", test);
+        equal("it compares answers", true, checked > before + 1);
+        about = "";
+    }
+
     static void outside(TrainDecoder x, String what, Call call) {
         refuses(x, what, IndexOutOfBoundsException.class, call);
     }
@@ -70,7 +92,7 @@ final class Check {
     private static void report(String what, String due, String answered) {
         wrong++;
         if (wrong <= 20) {
-            System.out.println(what + ": due is " + due + ", answered was " + answered);
+            System.out.println(about + what + ": due is " + due + ", answered was " + answered);
         }
     }
 }
