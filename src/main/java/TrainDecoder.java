@@ -1392,7 +1392,7 @@ public final class TrainDecoder {
         }
 
         /** Returns whether execution goes on. */
-        boolean runChain(Command first, int repeatsAround) {
+        private boolean runChain(Command first, int repeatsAround) {
             if (repeatsAround > Parser.MAX_NESTING) {
                 return false;
             }
